@@ -23,7 +23,9 @@ public final class SecretRows {
     private static final char STAR = '*';
     private static final int STARS = 3;
 
-    private static final int FORMS_OF_A_VALUE = 3;
+    /** Three of each VALUE and of each OLD one. */
+    private static final int MOST_FORMS = MOST_SECRETS * 2 * 3;
+    private static final int AS_IT_IS = 0;
     private static final int FROM_THE_END = 1;
     private static final int BY_CODES = 2;
 
@@ -280,17 +282,17 @@ public final class SecretRows {
         for (int i = 0; i < secretCount; i++) {
             Secret one = findSecret(i);
             if (one != null && one.old != null && clock < one.oldEnd) {
-                forms.add(i, one.old, 1);
+                forms.addAll(i, one.old, 1);
             }
             if (one != null && one.value != null) {
-                forms.add(i, one.value, 0);
+                forms.addAll(i, one.value, 0);
             }
         }
     }
 
     private void rememberLeak(int form) {
-        leakSecret = forms.secretOf(form);
-        leakForm = form % FORMS_OF_A_VALUE;
+        leakSecret = forms.ownerOf(form);
+        leakForm = forms.kindOf(form);
         leakOld = forms.oldOf(form);
     }
 
@@ -340,11 +342,14 @@ public final class SecretRows {
         }
 
         boolean isLike(Text other) {
-            if (length != other.length) {
-                return false;
-            }
-            for (int i = 0; i < length; i++) {
-                if (at(i) != other.at(i)) {
+            return length == other.length && agrees(other, 0);
+        }
+
+        /** Whether this and another one from a place on are the same as far as both of them go. */
+        boolean agrees(Text other, int from) {
+            int both = Math.min(length, other.length - from);
+            for (int i = 0; i < both; i++) {
+                if (at(i) != other.at(from + i)) {
                     return false;
                 }
             }
@@ -356,42 +361,36 @@ public final class SecretRows {
     private static final class Value {
         private final int number;
         private final Text text;
+        private final Text fromTheEnd;
+        private final Text byCodes;
 
         Value(int number, Text source) {
             this.number = number;
             text = new Text(source.length());
             text.addAll(source);
+            fromTheEnd = turned(source);
+            byCodes = codesOf(source);
         }
 
-        int formLength(int form) {
-            return form == BY_CODES ? 2 * text.length() : text.length();
-        }
-
-        int formAt(int form, int i) {
-            if (form == BY_CODES) {
-                return digitAt(i);
+        private static Text turned(Text source) {
+            Text form = new Text(source.length());
+            for (int i = source.length() - 1; i >= 0; i--) {
+                form.add(source.at(i));
             }
-            return text.at(form == FROM_THE_END ? text.length() - 1 - i : i);
+            return form;
         }
 
-        private int digitAt(int i) {
-            int code = text.at(i / 2);
-            if (code == NONE) {
-                return NONE;
+        private static Text codesOf(Text source) {
+            Text form = new Text(2 * source.length());
+            for (int i = 0; i < source.length(); i++) {
+                form.add(digit(source.at(i) >> 4));
+                form.add(digit(source.at(i) & 15));
             }
-            int digit = i % 2 == 0 ? code >> 4 : code & 15;
-            return digit < 10 ? '0' + digit : 'a' + digit - 10;
+            return form;
         }
 
-        /** Whether a FORM and a text from a place on are the same as far as both of them go. */
-        boolean agrees(int form, Text other, int from) {
-            int both = Math.min(formLength(form), other.length() - from);
-            for (int i = 0; i < both; i++) {
-                if (formAt(form, i) != other.at(from + i)) {
-                    return false;
-                }
-            }
-            return true;
+        private static int digit(int n) {
+            return n < 10 ? '0' + n : 'a' + n - 10;
         }
     }
 
@@ -486,8 +485,8 @@ public final class SecretRows {
         }
 
         /**
-         * Looks once when all have come: the FORMS stay the same meanwhile, and then what is told
-         * or taken after one character would be so after the others too.
+         * Looks once when all have come: while the FORMS stay the same, what is told or taken
+         * after one character is told or taken after the others too.
          */
         void come(Text tape, Forms forms) {
             came.addAll(tape);
@@ -563,60 +562,69 @@ public final class SecretRows {
         }
     }
 
-    /**
-     * The FORMS that count at a time. A FORM's number is that of its VALUE's row, times three, and
-     * which one it is of that VALUE: so a search in this order meets the preferred ones first.
-     */
+    /** The FORMS that count at a time, those that a leak prefers first. */
     private static final class Forms {
-        private final Value[] values;
+        private final Text[] texts;
         private final int[] owners;
+        private final int[] kinds;
         private final int[] olds;
-        private int rows;
+        private int count;
 
         Forms() {
-            values = new Value[2 * MOST_SECRETS];
-            owners = new int[2 * MOST_SECRETS];
-            olds = new int[2 * MOST_SECRETS];
+            texts = new Text[MOST_FORMS];
+            owners = new int[MOST_FORMS];
+            kinds = new int[MOST_FORMS];
+            olds = new int[MOST_FORMS];
         }
 
         void clear() {
-            rows = 0;
+            count = 0;
         }
 
-        void add(int secret, Value value, int old) {
-            if (rows >= values.length || rows >= owners.length || rows >= olds.length) {
+        void addAll(int secret, Value value, int old) {
+            add(value.text, secret, AS_IT_IS, old);
+            add(value.fromTheEnd, secret, FROM_THE_END, old);
+            add(value.byCodes, secret, BY_CODES, old);
+        }
+
+        private void add(Text text, int secret, int kind, int old) {
+            if (count < 0 || count >= MOST_FORMS) {
                 return;
             }
-            values[rows] = value;
-            owners[rows] = secret;
-            olds[rows] = old;
-            rows++;
+            texts[count] = text;
+            owners[count] = secret;
+            kinds[count] = kind;
+            olds[count] = old;
+            count++;
         }
 
-        int secretOf(int form) {
-            int row = form / FORMS_OF_A_VALUE;
-            return row < 0 || row >= owners.length ? NONE : owners[row];
+        int ownerOf(int form) {
+            return isThere(form) ? owners[form] : NONE;
+        }
+
+        int kindOf(int form) {
+            return isThere(form) ? kinds[form] : NONE;
         }
 
         int oldOf(int form) {
-            int row = form / FORMS_OF_A_VALUE;
-            return row < 0 || row >= olds.length ? NONE : olds[row];
+            return isThere(form) ? olds[form] : NONE;
         }
 
         int lengthOf(int form) {
-            Value value = valueOf(form);
-            return value == null ? 0 : value.formLength(form % FORMS_OF_A_VALUE);
+            Text text = textOf(form);
+            return text == null ? 0 : text.length();
         }
 
         /** The longest FORM that is there whole from a place on; of like ones the first. */
         int longestWhole(Text text, int from) {
+            int rest = text.length() - from;
             int longest = NONE;
             int most = 0;
-            for (int form = 0; form < rows * FORMS_OF_A_VALUE; form++) {
-                int length = lengthOf(form);
-                if (length > most && length <= text.length() - from && agrees(form, text, from)) {
+            for (int form = 0; form < count; form++) {
+                Text one = textOf(form);
+                if (one != null && one.length() > most && one.length() <= rest && one.agrees(text, from)) {
                     longest = form;
-                    most = length;
+                    most = one.length();
                 }
             }
             return longest;
@@ -624,22 +632,22 @@ public final class SecretRows {
 
         /** Whether the text from a place till its end is the beginning of a longer FORM. */
         boolean mayCome(Text text, int from) {
-            for (int form = 0; form < rows * FORMS_OF_A_VALUE; form++) {
-                if (lengthOf(form) > text.length() - from && agrees(form, text, from)) {
+            int rest = text.length() - from;
+            for (int form = 0; form < count; form++) {
+                Text one = textOf(form);
+                if (one != null && one.length() > rest && one.agrees(text, from)) {
                     return true;
                 }
             }
             return false;
         }
 
-        private boolean agrees(int form, Text text, int from) {
-            Value value = valueOf(form);
-            return value != null && value.agrees(form % FORMS_OF_A_VALUE, text, from);
+        private boolean isThere(int form) {
+            return form >= 0 && form < count && form < MOST_FORMS;
         }
 
-        private Value valueOf(int form) {
-            int row = form / FORMS_OF_A_VALUE;
-            return row < 0 || row >= values.length ? null : values[row];
+        private Text textOf(int form) {
+            return isThere(form) ? texts[form] : null;
         }
     }
 }

@@ -31,6 +31,7 @@ public final class PromiseTest {
         token();
         good();
         scan();
+        scanForAllThatCanBe();
         leak();
         System.out.println(checks + " checks, " + wrong + " wrong");
         if (wrong != 0) {
@@ -94,10 +95,6 @@ public final class PromiseTest {
         return x;
     }
 
-    private static String repeat(String text, int n) {
-        return text.repeat(n);
-    }
-
     private static void newObject() {
         promise = 1;
         SecretRows x = new SecretRows();
@@ -158,7 +155,7 @@ public final class PromiseTest {
         due("only the right ones came", x.log(0), 2);
         due("the first", x.told(0, 0), 32);
         due("the second", x.told(0, 1), 126);
-        typeAll(x, repeat("x", 300));
+        typeAll(x, "x".repeat(300));
         due("the 301st", x.type('x'), false);
         due("still", x.type('y'), false);
         due("no room for 300 behind 2", x.log(0), -1);
@@ -214,7 +211,8 @@ public final class PromiseTest {
         due("empty after 1", x.set(0, 0), -2);
         due("revoke", x.revoke(0), true);
         due("revoked", setTo(x, 0, "efgh", 0), -1);
-        due("empty after -1", x.scan(), -1);
+        due("step", x.step(0, 0, 0, false), 0);
+        due("empty after -1", x.log(0), 0);
     }
 
     private static void setAgainstOthers() {
@@ -222,7 +220,7 @@ public final class PromiseTest {
         SecretRows x = with("abcd", "efgh");
         due("its own", setTo(x, 0, "abcd", 5), -3);
         due("another's", setTo(x, 0, "efgh", 5), -3);
-        due("the tape is empty then", x.scan(), -1);
+        due("the tape is empty then", x.log(0), 0);
         due("from its end", setTo(x, 0, "dcba", 5), 1);
         due("its own old one", setTo(x, 0, "abcd", 5), -3);
         due("another's old one", setTo(x, 1, "abcd", 5), -3);
@@ -249,8 +247,9 @@ public final class PromiseTest {
             due("set " + i, setTo(x, i % 2, "val" + (char) ('a' + i), 0), 1);
             due("refused ones aren't counted", x.set(i % 2, 0), -2);
         }
+        due("step", x.step(0, 0, 0, false), 0);
         due("the 25th", setTo(x, 0, "valy", 0), -4);
-        due("the tape is empty then", x.scan(), -1);
+        due("the tape is empty then", x.log(0), 0);
         due("-3 goes before -4", setTo(x, 0, "valx", 0), -3);
         due("-2 goes before -4", setTo(x, 0, "val", 0), -2);
         due("-1 goes before -4", setTo(x, 2, "valy", 0), -1);
@@ -515,15 +514,13 @@ public final class PromiseTest {
     private static void logRoom() {
         promise = 11;
         SecretRows x = with("abcd");
-        due("300", logOf(x, 0, repeat("abcd", 75)), 300);
+        due("300", logOf(x, 0, "abcd".repeat(75)), 300);
         due("told", x.about(0, 0), 225);
         due("no room, though less is told", logOf(x, 0, "x"), -1);
         due("nothing has room", x.log(0), 0);
-        due("step", x.step(0, 0, 0, false), 1);
-        due("299", logOf(x, 1, repeat("z", 299 - 200)), 99);
         SecretRows y = new SecretRows();
         due("step", y.step(0, 0, 0, false), 0);
-        due("298", logOf(y, 0, repeat("z", 298)), 298);
+        due("298", logOf(y, 0, "z".repeat(298)), 298);
         due("three are too many, and none comes", logOf(y, 0, "abc"), -1);
         due("the tape is empty then", y.log(0), 0);
         due("none came", y.about(0, 0), 298);
@@ -679,10 +676,28 @@ public final class PromiseTest {
         due("by codes", scanOf(x, "7778797a"), 0);
         due("by codes, from the end isn't one", scanOf(x, "7a797877"), -1);
         due("not whole", scanOf(x, "abc wxy 6162636"), -1);
-        due("at the end", scanOf(x, repeat("-", 296) + "dcba"), 296);
+        due("at the end", scanOf(x, "-".repeat(296) + "dcba"), 296);
         due("nothing comes to a log", x.about(0, 0), 0);
         due("revoked", x.revoke(1), true);
         due("counts", scanOf(x, "-wxyz"), 1);
+    }
+
+    private static void scanForAllThatCanBe() {
+        promise = 17;
+        SecretRows x = new SecretRows();
+        for (int i = 0; i < 10; i++) {
+            due("secret", x.secret(255, 255, 255), i);
+            due("the one that will be old", setTo(x, i, "old" + i, 0), 1);
+            due("the other", setTo(x, i, "new" + i, 1), 1);
+        }
+        for (int i = 0; i < 10; i++) {
+            due("old by codes", scanOf(x, "6f6c643" + i), 0);
+            due("secret", x.leak(0), i);
+            due("is old", x.leak(2), 1);
+            due("new by codes", scanOf(x, "6e65773" + i), 0);
+            due("secret", x.leak(0), i);
+            due("isn't old", x.leak(2), 0);
+        }
     }
 
     private static void leak() {
