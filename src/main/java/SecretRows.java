@@ -124,16 +124,9 @@ public final class SecretRows {
     }
 
     public int log(int step) {
-        Step found = findStep(step);
-        int count = tape.length();
-        boolean comes = found != null && found.log.takes(count);
-        // Without a character nothing is looked at anew, though other FORMS may count by now.
-        if (comes && count > 0) {
-            gatherForms();
-            found.log.come(tape, forms);
-        }
+        int answer = logFromTape(findStep(step));
         tape.clear();
-        return comes ? count : NONE;
+        return answer;
     }
 
     public int close(int step) {
@@ -250,6 +243,18 @@ public final class SecretRows {
         owner.rotate(new Value(valueCount, tape), clock + ticks);
         valueCount++;
         return 1;
+    }
+
+    private int logFromTape(Step found) {
+        if (found == null || !found.log.takes(tape.length())) {
+            return NONE;
+        }
+        // Without a character nothing is looked at anew, though other FORMS may count by now.
+        if (tape.length() > 0) {
+            gatherForms();
+            found.log.come(tape, forms);
+        }
+        return tape.length();
     }
 
     private boolean tapeCanBeValue() {
