@@ -157,8 +157,8 @@ public final class EdgeTest {
     }
 
     private static void dueTapeIsEmpty() {
-        int secret = x.secret(0, 0, 0);
-        due(-2, x.set(secret, 0));
+        int step = x.step(0, 0, 0, true);
+        due(0, x.log(step));
     }
 
     // ---- promises 1 to 3
@@ -518,7 +518,7 @@ public final class EdgeTest {
         edge(4, "the TAPE is empty then: - 2");
         due(0, x.secret(255, 255, 255));
         due(-2, set(0, "abc", 0));
-        due(1, set(0, "defg", 0));
+        dueTapeIsEmpty();
         edge(4, "the TAPE is empty then: - 3");
         secretsWith("abcd");
         due(-3, set(0, "abcd", 0));
